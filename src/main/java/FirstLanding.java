@@ -1080,8 +1080,8 @@ public final class FirstLanding {
             if (!isIn(set, a) || !isIn(set, b)) {
                 return -1;
             }
-            int one = seeming(a, set);
-            int other = seeming(b, set);
+            int one = seemingAs(kinds[a], a, set);
+            int other = seemingAs(kinds[b], b, set);
             return one == 0 || other == 0 ? -1 : Math.abs(one - other);
         }
 

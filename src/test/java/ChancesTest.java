@@ -33,6 +33,9 @@ public final class ChancesTest {
         FirstLanding none = new FirstLanding();
         DUE.refused(none, "missions(0) without people", () -> none.missions(0), FirstLanding.STATE);
         DUE.refused(none, "missions(3) without people", () -> none.missions(3), FirstLanding.BAD);
+        // 0 and 1 agree, 2 and 3 agree: the other one can always part them, were it first it could not.
+        FirstLanding two = Due.embassy("n4v0500v5000v0005v0050");
+        DUE.is("the first one wants many, the other few", two.missions(1), 0);
         FirstLanding y = Due.embassy("n3g055g505g550");
         DUE.is("one each: a pair", y.missions(1), 1);
         DUE.is("two each: all three", y.missions(2), 3);
@@ -67,6 +70,11 @@ public final class ChancesTest {
         // By 1/12: 5 with either or both, 143 of 144.
         DUE.ratio(x, "a twelfth: mid", x.mid(2, 1), 715, 144);
         DUE.ratio(x, "a twelfth: odds", x.odds(2, 1), 143, 144);
+        FirstLanding nine = Due.embassy("n2c09v90");
+        nine.step(0);
+        nine.step(1);
+        DUE.ratio(nine, "nine: mid", nine.mid(0, 4), 6, 1);
+        DUE.ratio(nine, "nine: odds", nine.odds(1, 4), 2, 3);
         DUE.refused(x, "mid(0, 13) keeps what was told", () -> x.mid(0, 13), FirstLanding.BAD);
         DUE.is("upper() yet", x.upper(), 143);
         DUE.is("lower() yet", x.lower(), 144);

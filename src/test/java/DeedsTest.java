@@ -92,6 +92,15 @@ public final class DeedsTest {
         DUE.is("undo(39)", x.undo(39), 1);
         DUE.is("who is up", x.count(1), 1);
         DUE.is("step again", x.step(1), 2);
+        x.undo(39);
+        DUE.is("a meeting is the fortieth", x.meet(2, 1, 3), 0);
+        x.undo(38);
+        x.step(1);
+        x.undo(37);
+        x.step(0);
+        x.step(1);
+        DUE.is("a treaty is the fortieth", x.treat(0, 1), 1);
+        DUE.is("forty deeds again", x.count(2), 40);
     }
 
     private static void undone() {

@@ -1,6 +1,9 @@
 import java.util.Random;
 
-/** Runs of calls by chance (always the same ones): FirstLanding answers as the Model does. */
+/**
+ * Runs of calls by chance (always the same ones): FirstLanding answers as the Model does. What is told is
+ * asked behind each call, so that an object gets more than 512 calls; this class has no such bound.
+ */
 public final class ModelTest {
     private static final int RUNS = 1500, CALLS = 300;
     private static final int[] WILD = {Integer.MIN_VALUE, -1000, -2, -1, 64, 100, 1 << 20, Integer.MAX_VALUE};

@@ -28,6 +28,8 @@ public final class NotesTest {
         Due.row(x, 0, 3, 3);
         DUE.is("child: 0, 3 .. 9 beside 3", x.fits(2, 0, 0), 1017);
         DUE.is("its looks are as they were", x.looks(2, 0), 3);
+        Due.row(x, 0, 6, 9);
+        DUE.is("9 can be noted", x.fits(0, 1, 0), 512);
         DUE.refused(x, "fits(0, 0, 0)", () -> x.fits(0, 0, 0), FirstLanding.BAD);
         DUE.refused(x, "fits(3, 0, 0)", () -> x.fits(3, 0, 0), FirstLanding.BAD);
         DUE.refused(x, "fits(0, 3, 0)", () -> x.fits(0, 3, 0), FirstLanding.BAD);

@@ -137,6 +137,8 @@ public final class RowsTest {
         FirstLanding x = new FirstLanding();
         Due.row(x, 0, 3, 4);
         DUE.asked(x, "mean of 3, 4", x.mean(0), 1, 3);
+        Due.row(x, 0, 9);
+        DUE.asked(x, "mean of 9", x.mean(0), 1, 9);
         Due.row(x, 0, -3, -4);
         DUE.asked(x, "mean of -3, -4", x.mean(0), 1, -3);
         Due.row(x, 0, Integer.MAX_VALUE, Integer.MAX_VALUE, Integer.MAX_VALUE);

@@ -12,7 +12,11 @@ final class Due {
         }
     }
 
-    /** An answer that is 1, and what asked() tells then. */
+    int wrong() {
+        return wrong;
+    }
+
+    /** An answer, and what asked() tells then. */
     void asked(FirstLanding x, String what, long got, long want, long asked) {
         is(what, got, want);
         is(what + ", asked()", x.asked(), asked);
@@ -26,14 +30,17 @@ final class Due {
 
     /** A call that is refused with a FINDING: which one, counted once more, and nothing else changed. */
     void finding(FirstLanding x, String what, java.util.function.IntSupplier call, int which) {
-        long before = x.digest();
-        int times = x.findings(which);
-        int asked = x.asked();
+        long before = state(x);
+        int[] times = new int[6];
+        for (int f = 1; f <= 5; f++) {
+            times[f] = x.findings(f);
+        }
         is(what, call.getAsInt(), FirstLanding.FINDING);
         is(what + ", finding()", x.finding(), which);
-        is(what + ", findings()", x.findings(which), times + 1);
-        is(what + ", asked()", x.asked(), asked);
-        is(what + ", digest()", x.digest(), before);
+        for (int f = 1; f <= 5; f++) {
+            is(what + ", findings(" + f + ")", x.findings(f), times[f] + (f == which ? 1 : 0));
+        }
+        is(what + ", all else", state(x), before);
     }
 
     /** A call that is refused otherwise: nothing changes, finding() and findings() neither. */
@@ -43,12 +50,16 @@ final class Due {
         is(what + ", all that is told", told(x), before);
     }
 
-    private static long told(FirstLanding x) {
+    /** All that is told, but for finding() and findings(). */
+    static long state(FirstLanding x) {
         long h = x.digest();
         h = 31 * h + x.asked();
         h = 31 * h + x.upper();
-        h = 31 * h + x.lower();
-        h = 31 * h + x.finding();
+        return 31 * h + x.lower();
+    }
+
+    static long told(FirstLanding x) {
+        long h = 31 * state(x) + x.finding();
         for (int f = 1; f <= 5; f++) {
             h = 31 * h + x.findings(f);
         }

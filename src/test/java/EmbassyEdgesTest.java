@@ -13,6 +13,7 @@ public final class EmbassyEdgesTest {
         SAYS.that(10, "BAD; NOTHING.", EmbassyEdgesTest::faultRefused);
         SAYS.that(11, "how many PEOPLE.", EmbassyEdgesTest::embassyOfEachSize);
         SAYS.that(11, "(anew: nobody UP, no TREATIES, no DEEDS; kept EMBASSIES go)", EmbassyEdgesTest::embassyAnew);
+        SAYS.that(11, "An EMBASSY by a TEXT (anew:", EmbassyEdgesTest::embassyAfterLarger);
         SAYS.that(11, "BAD; NOTHING; STATE: a FAULT. (STATE behind NOTHING.)", EmbassyEdgesTest::embassyRefused);
         SAYS.that(12, "0 the KIND", EmbassyEdgesTest::personKind);
         SAYS.that(12, "1 whether one is UP (1, 0)", EmbassyEdgesTest::personUp);
@@ -300,6 +301,36 @@ public final class EmbassyEdgesTest {
         DUE.is("forty deeds more can be done", x.step(0), 1);
     }
 
+    private static void embassyAfterLarger() {
+        String small = "n2e05k50";
+        String large = "n6c999999c999999c999999c999999c999999c999999";
+        FirstLanding x = new FirstLanding();
+        Due.write(x, 0, large);
+        x.embassy(0);
+        for (int a = 0; a < 6; a++) {
+            x.step(a);
+        }
+        x.treat(0, 5);
+        x.treat(0, 1);
+        x.keep(1);
+        Due.write(x, 0, small);
+        DUE.is("fewer people", x.embassy(0), 2);
+        FirstLanding y = Due.embassy(small);
+        DUE.is("nothing is left of more people", x.digest(), y.digest());
+        for (int a = 0; a < 2; a++) {
+            for (int kind = 1; kind <= 5; kind++) {
+                DUE.is("mark(" + a + ", " + kind + ")", x.mark(a, kind), y.mark(a, kind));
+            }
+            DUE.is("tells(" + a + ")", x.tells(a), y.tells(a));
+            DUE.is("knows(" + a + ", 9)", x.knows(a, 9), y.knows(a, 9));
+        }
+        DUE.is("well()", x.well(), y.well());
+        DUE.is("missions(2)", x.missions(2), y.missions(2));
+        Due.write(x, 0, large);
+        DUE.is("more people again", x.embassy(0), 6);
+        DUE.is("nothing is left of fewer people", x.digest(), Due.embassy(large).digest());
+    }
+
     private static void embassyRefused() {
         FirstLanding x = Due.embassy("n3g055g505g500");
         x.step(0);
@@ -440,6 +471,7 @@ public final class EmbassyEdgesTest {
         DUE.is("a chief, too", Due.embassy("n3g000c192g000").mark(1, 1), 2);
         DUE.is("nine is not cut off", Due.embassy("n3c089g000g000").mark(0, 1), 2);
         DUE.is("of two people", Due.embassy("n2e90e90").mark(1, 1), 0);
+        DUE.is("the looks of the next one are no matter", Due.embassy("n6e011111g999999g000000g000000g000000g000000").mark(0, 1), 1);
     }
 
     private static void markSpy() {
@@ -471,6 +503,7 @@ public final class EmbassyEdgesTest {
     private static void markChild() {
         DUE.is("all others", Due.embassy("n6k999999g011111g011111g011111g011111g011111").mark(0, 5), 5);
         DUE.is("none", Due.embassy("n3k000g100g100").mark(0, 5), 0);
+        DUE.is("the first one has made none", Due.embassy("n3g000g001k000").mark(2, 5), 1);
         DUE.is("its own looks are no matter", Due.embassy("n3k011g100g010").mark(0, 5), 1);
         FirstLanding x = Due.embassy("n3k000g000g000");
         x.meet(1, 0, 1);

@@ -185,6 +185,8 @@ public final class SearchEdgesTest {
         DUE.is("a chief: 2", meetings('c', "10000", 63, 2), 0);
         DUE.is("a child: one below", meetings('k', "05050", 63, 4), 1);
         DUE.is("a child: any one", meetings('k', "00000", 63, 9), 1);
+        DUE.is("a spy who is the last: both others", Due.embassy("n3g000g000s000").meetings(2, 7, 5), 2);
+        DUE.is("a guest between: the first one", Due.embassy("n3g000g000g000").meetings(1, 1, 5), 1);
     }
 
     private static void meetingsOfEach() {

@@ -8,6 +8,7 @@ public final class AsideEdgesTest {
 
     public static void main(String[] args) {
         kinds();
+        SAYS.that(0, "---- 3 who is what there (aside).", AsideEdgesTest::aside);
         SAYS.that(21, "What one SEEMS with a set.", AsideEdgesTest::seemsWithEachSet);
         SAYS.that(21, "BAD.", AsideEdgesTest::seemsRefused);
         SAYS.that(22, "Who of a set is there (bits, each with the others of it).", AsideEdgesTest::thereOfSets);
@@ -145,6 +146,24 @@ public final class AsideEdgesTest {
         DUE.asked(y, "two of three", y.well(), 2, 6);
         FirstLanding z = Due.embassy("n3v055v606v740");
         DUE.asked(z, "5, 6, 7: the ends don't agree", z.well(), 2, 3);
+    }
+
+    private static void aside() {
+        FirstLanding x = Due.embassy("n4g0550e5050s5500v0000");
+        x.step(0);
+        x.step(1);
+        x.treat(0, 1);
+        x.keep(1);
+        long before = x.digest();
+        for (int set = 0; set < 16; set++) {
+            int sum = x.there(set) + x.agree(set) + x.add(set) + x.worst(set) + x.well();
+            for (int a = 0; a < 4; a++) {
+                sum += x.seems(a, set);
+            }
+            DUE.is("nothing changes by questions that come to " + sum, x.digest(), before);
+        }
+        DUE.is("nothing was found", x.finding(), 0);
+        DUE.is("all can be undone yet", x.undo(0), 3);
     }
 
     private static void seemsWithEachSet() {

@@ -252,28 +252,24 @@ public final class DeedEdgesTest {
         DUE.refused(x, "BAD ahead of FULL", () -> x.treat(1, 1), BAD);
     }
 
+    /** Deed i of a run of forty with deeds of every sort. */
+    private static void deed(FirstLanding x, int i) {
+        int did = i == 2 ? x.treat(0, 1) : i == 5 ? x.meet(2, 1, 8) : x.step(i % 3);
+        DUE.is("deed " + i + " is done", did >= 0 ? 1 : 0, 1);
+    }
+
     private static void undone() {
         FirstLanding x = Due.embassy("n3g055g505g500");
         long[] before = new long[40];
         for (int i = 0; i < 40; i++) {
             before[i] = x.digest();
-            if (i == 2) {
-                x.treat(0, 1);
-            } else if (i == 5) {
-                x.meet(2, 1, 8);
-            } else {
-                x.step(i % 3);
-            }
+            deed(x, i);
         }
         DUE.is("forty deeds", x.count(2), 40);
-        x.keep(0);
-        x.embassy(0);
-        // The digest has kept embassies in it, so that they are made and kept anew for each number.
-        for (int n = 39; n >= 0; n--) {
+        for (int n = 0; n < 40; n++) {
             FirstLanding y = Due.embassy("n3g055g505g500");
             for (int i = 0; i < 40; i++) {
-                int did = i == 2 ? y.treat(0, 1) : i == 5 ? y.meet(2, 1, 8) : y.step(i % 3);
-                DUE.is("deed " + i, did >= 0 ? 1 : 0, 1);
+                deed(y, i);
             }
             DUE.is("undo(" + n + ") of forty", y.undo(n), 40 - n);
             DUE.is("as it was ahead of deed " + n, y.digest(), before[n]);

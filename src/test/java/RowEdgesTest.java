@@ -8,6 +8,7 @@ public final class RowEdgesTest {
     private static final Due DUE = SAYS.due;
 
     public static void main(String[] args) {
+        SAYS.that(0, "ROWS 0 .. 5 are rows of 0 to 40 ints, TEXTS 0 .. 3 rows of 0 to 60 bytes", RowEdgesTest::allAtOnce);
         SAYS.that(1, "No ROWS, TEXTS, PEOPLE.", RowEdgesTest::newObject);
         SAYS.that(2, "A ROW is there with n ints 0: n.", RowEdgesTest::rowOfEachSize);
         SAYS.that(2, "BAD: also n above 40", RowEdgesTest::rowTooLarge);
@@ -32,6 +33,32 @@ public final class RowEdgesTest {
         SAYS.that(9, "what it was, and 1000 more", RowEdgesTest::putAtTheEnds);
         SAYS.that(9, "BAD; NOTHING; BEYOND.", RowEdgesTest::putRefused);
         SAYS.end("RowEdgesTest", 1, 9);
+    }
+
+    private static void allAtOnce() {
+        FirstLanding x = new FirstLanding();
+        for (int r = 0; r <= 5; r++) {
+            x.row(r, 40);
+        }
+        for (int t = 0; t <= 3; t++) {
+            x.text(t, 60);
+        }
+        for (int r = 0; r <= 5; r++) {
+            x.lay(r, 0, 100 + r);
+            x.lay(r, 39, 200 + r);
+        }
+        for (int t = 0; t <= 3; t++) {
+            x.put(t, 0, 10 + t);
+            x.put(t, 59, 20 + t);
+        }
+        for (int r = 0; r <= 5; r++) {
+            DUE.asked(x, "row " + r + ", the first place", x.at(r, 0), 1, 100 + r);
+            DUE.asked(x, "row " + r + ", the last place", x.at(r, 39), 1, 200 + r);
+        }
+        for (int t = 0; t <= 3; t++) {
+            DUE.is("text " + t + ", the first byte", x.put(t, 0, 0), 1010 + t);
+            DUE.is("text " + t + ", the last byte", x.put(t, 59, 0), 1020 + t);
+        }
     }
 
     private static void newObject() {

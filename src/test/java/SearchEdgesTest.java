@@ -26,6 +26,7 @@ public final class SearchEdgesTest {
         SAYS.that(31, "The set (by numbers) that tells most", SearchEdgesTest::tellsFirst);
         SAYS.that(31, "BAD.", SearchEdgesTest::tellsBad);
         SAYS.that(32, "PEOPLE (bits, oneself, too) of whom one can know by n (0 .. 9) steps", SearchEdgesTest::knowsChain);
+        SAYS.that(32, "one knows oneself", SearchEdgesTest::knowsOneself);
         SAYS.that(32, "by each step of those whom one of these has seen (LOOKS to that one above 0)", SearchEdgesTest::knowsSeen);
         SAYS.that(32, "BAD.", SearchEdgesTest::knowsBad);
         SAYS.that(33, "The fewest such steps by which one can know of another one (0: oneself).", SearchEdgesTest::hearsFewest);
@@ -399,6 +400,14 @@ public final class SearchEdgesTest {
             DUE.is("knows(0, " + n + ")", x.knows(0, n), (1 << Math.min(6, n + 1)) - 1);
             DUE.is("knows(5, " + n + "): oneself alone", x.knows(5, n), 32);
             DUE.is("knows(3, " + n + ")", x.knows(3, n), n == 0 ? 8 : n == 1 ? 24 : 56);
+        }
+    }
+
+    private static void knowsOneself() {
+        FirstLanding x = Due.embassy("n6g000000g000000g000000g000000g000000g000009");
+        for (int a = 0; a < 6; a++) {
+            DUE.is("by no step: " + a, x.knows(a, 0), 1 << a);
+            DUE.is("by nine steps, whatever one's own look: " + a, x.knows(a, 9), 1 << a);
         }
     }
 

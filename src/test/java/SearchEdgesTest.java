@@ -41,6 +41,7 @@ public final class SearchEdgesTest {
         SAYS.that(27, "the first step of the first such row (by numbers) by asked()", SearchEdgesTest::stepsFirst);
         SAYS.that(27, "(NONE: none is needed)", SearchEdgesTest::stepsNotNeeded);
         SAYS.that(27, "NONE: by none.", SearchEdgesTest::stepsNever);
+        SAYS.that(27, "from now on so that each pair has AGREED", SearchEdgesTest::stepsAfterLongerOnes);
         SAYS.that(27, "BAD; STATE: no PEOPLE; NOTHING; SIZE: not by pairs, not so many; UNLIKE. (In this order.)",
             SearchEdgesTest::stepsRefused);
         SAYS.that(28, "The fewest first MEETINGS (LOOKS of one to others of a set, which are 0)", SearchEdgesTest::meetingsFewest);
@@ -126,6 +127,25 @@ public final class SearchEdgesTest {
             full.step(0);
         }
         steps("forty deeds are no bound for steps aside", full, 2, 0, 0, 1);
+    }
+
+    /** Nothing that an earlier question came upon counts for a later one. */
+    private static void stepsAfterLongerOnes() {
+        int[][] never = {{0, 2}, {1, 5}, {0, 1, 0, 2}, {0, 2, 0, 1}, {2, 3, 0, 1, 3, 5}, {4, 5, 2, 3, 0, 1, 0, 5}};
+        int[][] longer = {{0, 1, 2, 3, 4, 5}, {4, 5, 2, 3, 0, 1, 1, 0}, {2, 3, 4, 5}, {0, 1}};
+        FirstLanding x = up(THREE_PAIRS);
+        for (int[] pairs : never) {
+            for (int[] earlier : longer) {
+                Due.row(x, 0, earlier);
+                DUE.is("a way for " + java.util.Arrays.toString(earlier), x.steps(0), earlier.length == 2 ? 2 : earlier.length == 4 ? 6 : 10);
+                Due.row(x, 0, pairs);
+                DUE.is("no way for " + java.util.Arrays.toString(pairs), x.steps(0), NONE);
+            }
+        }
+        Due.write(x, 0, "n2v01v90");
+        x.embassy(0);
+        Due.row(x, 0, 0, 1);
+        DUE.is("no way in a smaller embassy", x.steps(0), NONE);
     }
 
     private static void stepsRefused() {
